@@ -397,13 +397,13 @@ public final class GridRipUp {
                 case DOWN:
                     return cell >= area ? cell - area : NONE;
                 case BACK:
-                    return rowOf(cell) > 0 ? cell - width : NONE;
+                    return cell % area >= width ? cell - width : NONE;
                 case LEFT:
-                    return columnOf(cell) > 0 ? cell - 1 : NONE;
+                    return cell % width > 0 ? cell - 1 : NONE;
                 case RIGHT:
-                    return columnOf(cell) < width - 1 ? cell + 1 : NONE;
+                    return cell % width < width - 1 ? cell + 1 : NONE;
                 case FORTH:
-                    return rowOf(cell) < height - 1 ? cell + width : NONE;
+                    return cell % area < area - width ? cell + width : NONE;
                 case UP:
                     return cell < cells - area ? cell + area : NONE;
                 default:
@@ -413,18 +413,6 @@ public final class GridRipUp {
 
         boolean heldByOther(int cell, int net) {
             return holder[cell] != NONE && holder[cell] != net;
-        }
-
-        /** How many cells beside a cell, on its layer, another net holds. */
-        int heldBeside(int cell, int net) {
-            int count = 0;
-            for (int direction = BACK; direction <= FORTH; direction++) {
-                int other = neighbour(cell, direction);
-                if (other != NONE && heldByOther(other, net)) {
-                    count++;
-                }
-            }
-            return count;
         }
 
         int heldAtTurn(int net, int k) {
@@ -545,14 +533,22 @@ public final class GridRipUp {
         private void setTolls(int net, boolean ripping) {
             for (int cell = 0; cell < grid.cells; cell++) {
                 boolean foreign = grid.heldByOther(cell, net);
-                if (grid.barred[cell] || foreign && (!ripping || grid.pinned[cell])) {
-                    toll[cell] = CLOSED;
-                    continue;
+                boolean closed = grid.barred[cell] || foreign && (!ripping || grid.pinned[cell]);
+                toll[cell] = closed ? CLOSED : grid.scars[cell] + (foreign ? RIPPING_PRICE : 0);
+            }
+            for (int cell = 0; cell < grid.cells; cell++) {
+                if (grid.heldByOther(cell, net)) {
+                    raiseTollsBeside(cell);
                 }
-                int near = prices.near[grid.layerOf(cell)];
-                toll[cell] = grid.scars[cell] + (foreign ? RIPPING_PRICE : 0);
-                if (near > 0) {
-                    toll[cell] += near * grid.heldBeside(cell, net);
+            }
+        }
+
+        private void raiseTollsBeside(int held) {
+            int near = prices.near[grid.layerOf(held)];
+            for (int direction = Grid.BACK; direction <= Grid.FORTH && near > 0; direction++) {
+                int beside = grid.neighbour(held, direction);
+                if (beside != NONE && toll[beside] != CLOSED) {
+                    toll[beside] += near;
                 }
             }
         }
