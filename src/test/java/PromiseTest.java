@@ -1,82 +1,5 @@
 /** For each promise of the document: ordinary inputs, its edges, and wrong inputs; answers found by hand. */
-public final class PromiseTest {
-    private static final int NONE = GridRipUp.NONE;
-    private static int promise = 0;
-    private static int wrong = 0;
-
-    private interface Call {
-        Object answer();
-    }
-
-    private static void due(String what, Object got, Object want) {
-        if (!String.valueOf(got).equals(String.valueOf(want))) {
-            wrong++;
-            System.out.println("promise " + promise + ": " + what + " answered " + got + ", due is " + want);
-        }
-    }
-
-    private static void dueThrow(String what, Class<?> want, Call call) {
-        Object got;
-        try {
-            got = call.answer();
-        } catch (RuntimeException e) {
-            got = e.getClass();
-        }
-        due(what, got, want);
-    }
-
-    private static void dueIndex(String what, Call call) {
-        dueThrow(what, IndexOutOfBoundsException.class, call);
-    }
-
-    private static void dueArgument(String what, Call call) {
-        dueThrow(what, IllegalArgumentException.class, call);
-    }
-
-    /** A grid with a new net for each row of pins, each pin as layer, i, j. */
-    private static GridRipUp grid(int x, int y, int layers, long seed, int[]... nets) {
-        GridRipUp g = new GridRipUp(x, y, layers, seed);
-        for (int[] pins : nets) {
-            int n = g.net();
-            for (int p = 0; p + 2 < pins.length; p += 3) {
-                due("pin of the set-up", g.pin(n, pins[p], pins[p + 1], pins[p + 2]), true);
-            }
-        }
-        return g;
-    }
-
-    private static int[] pins(int... places) {
-        return places;
-    }
-
-    private static String way(GridRipUp g, int net) {
-        StringBuilder all = new StringBuilder();
-        try {
-            for (int k = 0; k < 2000; k++) {
-                all.append(g.piece(net, k, 0)).append(g.piece(net, k, 1)).append(g.piece(net, k, 2)).append(' ');
-            }
-        } catch (IndexOutOfBoundsException end) {
-            return all.toString().trim();
-        }
-        return "no end";
-    }
-
-    private static String blockers(GridRipUp g, int net) {
-        StringBuilder all = new StringBuilder();
-        for (int k = 0; k < 20 && g.blocking(net, k) != NONE; k++) {
-            all.append(g.blocking(net, k)).append(' ');
-        }
-        return all.toString().trim();
-    }
-
-    private static String corridor(GridRipUp g, int net) {
-        StringBuilder all = new StringBuilder();
-        for (int k = 0; k < 40 && g.corridor(net, k) != NONE; k++) {
-            all.append(g.corridor(net, k)).append(' ');
-        }
-        return all.toString().trim();
-    }
-
+public final class PromiseTest extends TestKit {
     private static void newObject() {
         int[] sizes = {Integer.MIN_VALUE, -1, 0, 1, 2, 15, 16, 17, Integer.MAX_VALUE};
         int[] sides = {1, 1, 1, 1, 2, 15, 16, 16, 16};
@@ -337,11 +260,6 @@ public final class PromiseTest {
         due("the layer's own nearness", upper.costOf(0), 2 + 9);
     }
 
-    /** Two nets cross; by seed 0 net 1 is led last, and rips net 0. */
-    private static GridRipUp crossing(int layers) {
-        return grid(3, 3, layers, 0, pins(0, 0, 1, 0, 2, 1), pins(0, 1, 0, 0, 1, 2));
-    }
-
     private static void ripped() {
         GridRipUp g = crossing(1);
         due("never", g.ripped(0), 0);
@@ -572,13 +490,10 @@ public final class PromiseTest {
             PromiseTest::cost, PromiseTest::run, PromiseTest::piece, PromiseTest::costOf, PromiseTest::ripped,
             PromiseTest::history, PromiseTest::open, PromiseTest::blocking, PromiseTest::joined,
             PromiseTest::corridor, PromiseTest::round, PromiseTest::band};
-        for (Runnable test : all) {
-            promise++;
-            test.run();
+        for (int promise = 1; promise <= all.length; promise++) {
+            says("promise " + promise);
+            all[promise - 1].run();
         }
-        System.out.println(wrong == 0 ? "all answers are as due" : wrong + " answers are not as due");
-        if (wrong != 0) {
-            System.exit(1);
-        }
+        endWithCode();
     }
 }
