@@ -527,7 +527,7 @@ public final class ModelTest {
     }
 
     public static void main(String[] args) {
-        int runs = args.length > 0 ? Integer.parseInt(args[0]) : 800;
+        int runs = args.length > 0 ? Integer.parseInt(args[0]) : 5000;
         Random r = new Random(args.length > 1 ? Long.parseLong(args[1]) : 20261118L);
         for (int run = 0; run < runs; run++) {
             oneRun(run, r, run % 25 == 24 ? 16 : 2 + r.nextInt(5), run % 25 == 24 ? 25 : 80);

@@ -225,12 +225,23 @@ public final class PromiseBoundaryTest extends TestKit {
         }
         due("all 12", twelve.run(20), 12);
         says("Promise 6: IllegalArgumentException, when rounds are not so");
-        GridRipUp g = grid(3, 3, 1, 0, pins(0, 0, 1, 0, 2, 1), pins(0, 1, 0, 0, 1, 2));
+        GridRipUp g = crossing(1);
         for (int rounds : new int[] {0, -1, -20, 21, 22, LEAST, GREATEST}) {
             dueArgument(rounds + " rounds", () -> g.run(rounds));
             dueArgument(rounds + " rounds when no net is open", () -> new GridRipUp(1, 1, 1, 0).run(rounds));
         }
-        due("no round, no draw by that", g.round() + " " + g.run(1) + " " + openNets(g), "0 1 0");
+        due("no round by that", g.round(), 0);
+        // a draw by that would change who of both is ripped by some of these seeds
+        for (int seed = 0; seed < 32; seed++) {
+            GridRipUp asked = crossing(1, seed);
+            dueArgument("0 rounds", () -> asked.run(0));
+            dueRippedAsByNewObject("no draw by that", asked, seed);
+        }
+    }
+
+    private static void dueRippedAsByNewObject(String what, GridRipUp g, int seed) {
+        GridRipUp fresh = crossing(1, seed);
+        due(what, g.run(1) + " " + openNets(g), fresh.run(1) + " " + openNets(fresh));
     }
 
     private static void runPlaysNoneWhenNoneIsOpen() {
@@ -247,15 +258,13 @@ public final class PromiseBoundaryTest extends TestKit {
         due("net 0 is led", three.run(1), 0);
         addPins(three, 1, 0, 0, 1, 0, 2, 1);
         due("net 1 rips it; the next round leads it round net 1", three.run(20) + " " + three.round(), "0 3");
-        // with a draw for a round that is not played, net 0 would be the last one
-        GridRipUp drawn = new GridRipUp(3, 3, 1, 0);
-        drawn.run(20);
-        drawn.net();
-        drawn.net();
-        drawn.run(20);
-        addPins(drawn, 0, 0, 0, 1, 0, 2, 1);
-        addPins(drawn, 1, 0, 1, 0, 0, 1, 2);
-        due("nothing was drawn", drawn.run(1) + " " + openNets(drawn), "1 0");
+        for (int seed = 0; seed < 32; seed++) {
+            GridRipUp empty = new GridRipUp(3, 3, 1, seed);
+            empty.run(1);
+            addPins(empty, empty.net(), 0, 0, 1, 0, 2, 1);
+            addPins(empty, empty.net(), 0, 1, 0, 0, 1, 2);
+            dueRippedAsByNewObject("no draw by that", empty, seed);
+        }
     }
 
     private static void pieceThrows() {
@@ -296,6 +305,15 @@ public final class PromiseBoundaryTest extends TestKit {
         addPins(shorter, 0, 0, 1, 1, 0, 3, 1, 0, 2, 1);
         shorter.run(1);
         due("a way in another order", way(shorter, 0), "000 011 010 021 031 040 030");
+    }
+
+    private static void pieceWhereAnotherWent() {
+        says("Promise 7: in the order in which they came into its tree");
+        GridRipUp g = grid(5, 1, 1, 0, pins(0, 0, 0, 0, 4, 0), pins());
+        due("net 0 goes over all", g.run(1) + " " + way(g, 0), "0 000 040 030 020 010");
+        addPins(g, 0, 0, 3, 0);
+        addPins(g, 1, 0, 1, 0, 0, 2, 0);
+        due("net 1's first pin lies where net 0's last cell was", g.run(1) + " " + way(g, 1), "1 010 020");
     }
 
     private static void costOfIsNone() {
@@ -574,6 +592,10 @@ public final class PromiseBoundaryTest extends TestKit {
         GridRipUp beside = grid(2, 3, 1, 0, pins(0, 0, 0, 0, 0, 1, 0, 0, 2, 0, 1, 1));
         addBars(beside, 0, 1, 2);
         due("a branch", bandOf(beside), false);
+        // 1, 0 is joined to 0, 0, so no way goes between it and 1, 1
+        GridRipUp apart = grid(3, 2, 1, 0, pins(0, 0, 0, 0, 0, 1, 0, 1, 1, 0, 2, 1, 0, 1, 0));
+        addBars(apart, 0, 2, 0);
+        due("neighbours without a way between", bandOf(apart), false);
     }
 
     public static void main(String[] args) {
@@ -591,6 +613,7 @@ public final class PromiseBoundaryTest extends TestKit {
         runPlaysNoneWhenNoneIsOpen();
         pieceThrows();
         pieceOfAnOpenNet();
+        pieceWhereAnotherWent();
         costOfIsNone();
         rippedHowOften();
         historyOfEachCell();

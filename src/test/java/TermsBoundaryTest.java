@@ -117,6 +117,10 @@ public final class TermsBoundaryTest extends TestKit {
         for (int[] side : SIDES) {
             GridRipUp g = grid(3, 3, 3, 0, pins(1, 1, 1, 1 + side[0], 1 + side[1], 1 + side[2]));
             due("each is one step away", g.run(1) + " " + g.costOf(0), "0 2");
+            GridRipUp line = grid(3, 3, 3, 0,
+                    pins(1 - side[0], 1 - side[1], 1 - side[2], 1 + side[0], 1 + side[1], 1 + side[2]));
+            due("and two steps over the middle", line.run(1) + " " + line.costOf(0), "0 4");
+            due("the middle", "" + line.piece(0, 2, 0) + line.piece(0, 2, 1) + line.piece(0, 2, 2), "111");
         }
         dueNoWay("the end of a row and the next row's first", 2, 2, 1, pins(0, 1, 0, 0, 0, 1), 0, 0, 0, 0, 1, 1);
         dueNoWay("both ends of a row", 3, 1, 1, pins(0, 0, 0, 0, 2, 0), 0, 1, 0);
@@ -248,10 +252,21 @@ public final class TermsBoundaryTest extends TestKit {
         GridRipUp barred = grid(2, 2, 1, 0, pins(0, 0, 0, 0, 1, 0));
         addBars(barred, 0, 1, 1);
         duePriceNear("not the barred", barred, 2);
+        duePriceNear("the grid's first cell", grid(3, 1, 1, 0, pins(0, 2, 0, 0, 1, 0), pins(0, 0, 0)), 2 + 50);
+        duePriceNear("the grid's last cell", grid(3, 1, 1, 0, pins(0, 0, 0, 0, 1, 0), pins(0, 2, 0)), 2 + 50);
         GridRipUp way = grid(3, 2, 1, 0, pins(), pins(0, 0, 1, 0, 2, 1));
         due("net 1 is led", way.run(1), 0);
         addPins(way, 0, 0, 0, 0, 0, 1, 0);
         duePriceNear("a led net's way", way, 2 + 50);
+    }
+
+    private static void nearOfItsLayer() {
+        says("of the cell that it comes to, NEAR of its layer, for each cell that another net HOLDS");
+        GridRipUp g = grid(3, 3, 2, 0, pins(1, 1, 1, 0, 1, 1), pins(0, 0, 1, 0, 1, 0), pins(1, 1, 0));
+        addBars(g, 1, 0, 0, 1, 0, 1, 0, 2, 0);
+        g.cost(0, 0, 0, 11);
+        g.cost(1, 0, 0, 50);
+        due("two cells of one net, by a via", g.run(1) + " " + g.costOf(0), "0 24");
     }
 
     private static void duePriceNear(String what, GridRipUp g, long want) {
@@ -275,6 +290,18 @@ public final class TermsBoundaryTest extends TestKit {
         GridRipUp h = crossing(1);
         h.run(1);
         due("in a ripping search", h.run(1) + " " + h.costOf(0), "1 105");
+        due("the cell that it comes to", priceAtHistory(pins(0, 2, 3, 0, 2, 2)), 3);
+        due("not the cell that it goes from", priceAtHistory(pins(0, 2, 2, 0, 2, 3)), 2);
+    }
+
+    /** What a third net costs whose one pin lies where two nets crossed, at a history of 1. */
+    private static long priceAtHistory(int[] pins) {
+        GridRipUp g = grid(5, 5, 1, 0, pins(0, 0, 2, 0, 4, 2), pins(0, 2, 0, 0, 2, 4), pins());
+        due("net 0 is ripped", g.run(1) + " " + g.history(0, 2, 2) + " " + openNets(g), "1 1 0");
+        addPins(g, 1, 0, 2, 1);
+        addPins(g, 2, pins);
+        g.run(1);
+        return g.costOf(2);
     }
 
     private static void treeOfOnePin() {
@@ -413,6 +440,11 @@ public final class TermsBoundaryTest extends TestKit {
         addPins(g, 2, 0, 0, 1, 0, 3, 1);
         due("both in the way are open", g.run(1) + " " + openNets(g), "2 0 1");
         due("rips", "" + g.ripped(0) + g.ripped(1) + g.ripped(2) + g.ripped(3), "1100");
+        GridRipUp first = grid(3, 3, 1, 0, pins(0, 1, 0, 0, 0, 1), pins());
+        due("net 0 goes over the grid's first cell", first.run(1) + " " + way(first, 0), "0 010 001 000");
+        addBars(first, 0, 1, 1);
+        addPins(first, 0, 0, 0, 2);
+        due("and holds it no more", first.bar(0, 0, 0), true);
         says("the HISTORY of each such cell grows by 1");
         due("the cells that were held", g.history(0, 1, 1) + " " + g.history(0, 2, 1), "1 1");
         due("not the pins of the way, nor cells beside it", g.history(0, 0, 1) + g.history(0, 3, 1)
@@ -531,6 +563,7 @@ public final class TermsBoundaryTest extends TestKit {
         acrossOfEachLayer();
         viaOfTheLowerLayer();
         nearOfFourCells();
+        nearOfItsLayer();
         historyIsPaidFor();
         treeOfOnePin();
         freeBeforeRipping();

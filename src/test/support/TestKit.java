@@ -73,7 +73,11 @@ abstract class TestKit {
 
     /** Two nets cross; by seed 0 net 1 is led last, and rips net 0. */
     static GridRipUp crossing(int layers) {
-        return grid(3, 3, layers, 0, pins(0, 0, 1, 0, 2, 1), pins(0, 1, 0, 0, 1, 2));
+        return crossing(layers, 0);
+    }
+
+    static GridRipUp crossing(int layers, long seed) {
+        return grid(3, 3, layers, seed, pins(0, 0, 1, 0, 2, 1), pins(0, 1, 0, 0, 1, 2));
     }
 
     static String way(GridRipUp g, int net) {
