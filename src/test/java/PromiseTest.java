@@ -485,6 +485,25 @@ public final class PromiseTest extends TestKit {
         }
     }
 
+    /** The example of README.md, with the answers that it tells. */
+    private static void exampleOfReadme() {
+        GridRipUp grid = new GridRipUp(3, 3, 1, 0L);
+        due("bar", grid.bar(0, 2, 2), true);
+        due("cost", grid.cost(0, 5, 0, 1), true);
+        int flat = grid.net();
+        due("pin", grid.pin(flat, 0, 0, 1) + " " + grid.pin(flat, 0, 2, 1), "true true");
+        int upright = grid.net();
+        due("pin", grid.pin(upright, 0, 1, 0) + " " + grid.pin(upright, 0, 1, 2), "true true");
+        due("nets", flat + " " + upright, "0 1");
+        due("run(1)", grid.run(1), 1);
+        due("open(0)", grid.open(0), 0);
+        due("ripped(flat)", grid.ripped(flat), 1);
+        due("joined(upright)", grid.joined(upright), true);
+        due("costOf(upright)", grid.costOf(upright), 117);
+        due("piece(upright, 2, 1)", grid.piece(upright, 2, 1), 1);
+        due("history(0, 1, 1)", grid.history(0, 1, 1), 1);
+    }
+
     public static void main(String[] args) {
         Runnable[] all = {PromiseTest::newObject, PromiseTest::bar, PromiseTest::net, PromiseTest::pin,
             PromiseTest::cost, PromiseTest::run, PromiseTest::piece, PromiseTest::costOf, PromiseTest::ripped,
@@ -494,6 +513,8 @@ public final class PromiseTest extends TestKit {
             says("promise " + promise);
             all[promise - 1].run();
         }
+        says("README.md");
+        exampleOfReadme();
         endWithCode();
     }
 }

@@ -341,6 +341,12 @@ public final class TermsBoundaryTest extends TestKit {
         due("104 and 6", g.costOf(1), 110);
         due("history of the first way alone", g.history(0, 1, 1) + " " + g.history(0, 1, 2) + " " + g.history(0, 1, 3),
                 "1 0 0");
+        GridRipUp dear = grid(5, 5, 1, 0, pins(0, 1, 0, 0, 1, 4), pins(), pins(0, 3, 0, 0, 3, 2));
+        dear.cost(0, 50, 0, 0);
+        due("nets 0 and 2 are led", dear.run(1), 0);
+        addPins(dear, 1, 0, 0, 1, 0, 2, 1, 0, 4, 1);
+        due("the second way goes round net 2", dear.run(1) + " " + way(dear, 1), "1 001 021 011 041 042 043 033 023 022");
+        due("for 212, though a ripping one is 104", dear.costOf(1) + " " + dear.ripped(2), "316 0");
     }
 
     private static void pinsAreNeverGoneThrough() {
@@ -364,6 +370,40 @@ public final class TermsBoundaryTest extends TestKit {
         addPins(one, 2, 0, 0, 1, 0, 3, 1);
         due("a longer way through one of them", one.run(1) + " " + one.costOf(2), "1 114");
         due("which it is", openNets(one) + " " + one.history(0, 1, 3), "0 1");
+    }
+
+    private static void stepsOfARippingSearch() {
+        says("again, over cells that other nets HOLD, too: a STEP costs what it does in a FREE search");
+        GridRipUp across = grid(3, 3, 1, 0, pins(0, 0, 1, 0, 2, 1), pins());
+        due("net 0 is led", across.run(1), 0);
+        addPins(across, 1, 0, 1, 0, 0, 1, 2);
+        across.cost(0, 9, 0, 0);
+        due("ACROSS", across.run(1) + " " + across.costOf(1), "1 " + (11 + 100 + 11));
+        GridRipUp via = grid(3, 1, 3, 0, pins(1, 0, 0, 1, 2, 0), pins());
+        due("net 0 is led", via.run(1), 0);
+        addPins(via, 1, 0, 1, 0, 2, 1, 0);
+        via.cost(0, 0, 5, 0);
+        via.cost(1, 0, 6, 0);
+        via.cost(2, 0, 50, 0);
+        due("VIA", via.run(1) + " " + via.costOf(1), "1 " + (7 + 100 + 8));
+        GridRipUp near = grid(3, 3, 1, 0, pins(0, 1, 0, 0, 1, 2), pins());
+        due("net 0 is led", near.run(1), 0);
+        addPins(near, 1, 0, 0, 1, 0, 2, 1);
+        near.cost(0, 0, 0, 7);
+        due("NEAR, of the net that is ripped, too", near.run(1) + " " + near.costOf(1), "1 " + (2 + 14 + 100 + 2 + 7));
+    }
+
+    /** As in freeAgainBehindRipping; net 0 keeps its pins at both ends of column 1. */
+    private static void nearNoMoreBehindRipping() {
+        says("each cell beside it on that which another net HOLDS, when that was ripped in the same leading");
+        GridRipUp g = grid(3, 5, 1, 0, pins(0, 1, 0, 0, 1, 4), pins());
+        due("net 0 is led", g.run(1), 0);
+        addPins(g, 1, 0, 0, 1, 0, 2, 1, 0, 2, 3);
+        addBars(g, 0, 2, 2);
+        g.cost(0, 0, 0, 5);
+        due("the ways", g.run(1) + " " + way(g, 1), "1 001 021 011 023 013 012");
+        int byRipping = (2 + 10 + 100) + (2 + 5);
+        due("behind it net 0's last pin alone is near", g.costOf(1), byRipping + 2 + (2 + 5) + 2);
     }
 
     /** Net 1 goes through net 0's way to its second pin; its third one lies behind bars. */
@@ -570,6 +610,8 @@ public final class TermsBoundaryTest extends TestKit {
         freeAgainBehindRipping();
         pinsAreNeverGoneThrough();
         aHundredForEach();
+        stepsOfARippingSearch();
+        nearNoMoreBehindRipping();
         staysOpenWithPinsAlone();
         blockedBy();
         firstOfSeveralPins();
